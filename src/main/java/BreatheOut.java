@@ -52,6 +52,11 @@ public final class BreatheOut {
     private static final int BYTES = 0;
     private static final int SHORTS = 1;
     private static final int INTS = 2;
+    private static final int LEAST_BYTE = -128;
+    private static final int LEAST_SHORT = -32768;
+    private static final int LEAST_INT = -2147483648;
+    private static final int NO_LIMIT = 2147483647;
+    private static final int ALL_BUT_SIGN = 2147483647;
 
     private final Cave now = new Cave();
     private final Cave kept = new Cave();
@@ -222,7 +227,7 @@ public final class BreatheOut {
         }
         trial.become(now);
         int found = NONE;
-        int fewest = Integer.MAX_VALUE;
+        int fewest = NO_LIMIT;
         for (int p = 0; p < 4; p++) {
             trial.bodies.posture[b] = p;
             Leg leg = trip.alone(trial, b, false);
@@ -265,13 +270,13 @@ public final class BreatheOut {
         if (!within(what, 0, 4)) {
             return NO_SUCH;
         }
-        trip.thereAndBack(now, now.bodies.line, now.bodies.count, now.clock);
+        Leg there = allGo();
         switch (what) {
-            case 0: return trip.there.arrived;
-            case 1: return trip.there.stuck;
-            case 2: return trip.there.where;
-            case 3: return trip.there.clock;
-            default: return trip.there.breaths;
+            case 0: return there.arrived;
+            case 1: return there.stuck;
+            case 2: return there.where;
+            case 3: return there.clock;
+            default: return there.breaths;
         }
     }
 
@@ -279,7 +284,7 @@ public final class BreatheOut {
         if (!within(what, 0, 3)) {
             return NO_SUCH;
         }
-        trip.thereAndBack(now, now.bodies.line, now.bodies.count, now.clock);
+        allReturn(now);
         switch (what) {
             case 0: return trip.home.arrived;
             case 1: return trip.home.stuck;
@@ -485,8 +490,7 @@ public final class BreatheOut {
             return refusal;
         }
         Shelf told = shelves[d];
-        allReturn(now);
-        Leg there = trip.there;
+        Leg there = allGo();
         for (int i = 0; i < told.length; i++) {
             boolean so = i < there.arrivals && told.cells[i] == there.times[i] - now.clock;
             if (!so && !told.isSkipped(i)) {
@@ -507,7 +511,7 @@ public final class BreatheOut {
         for (int party = 0; party < n; party++) {
             for (int b = 0; b < trial.bodies.count; b++) {
                 seed = seed * 1103515245 + 12345;
-                trial.bodies.fear[b] = (seed & Integer.MAX_VALUE) / 65536 % 10;
+                trial.bodies.fear[b] = (seed & ALL_BUT_SIGN) / 65536 % 10;
             }
             allReturn(trial);
             through += trip.there.arrivals;
@@ -709,6 +713,11 @@ public final class BreatheOut {
             }
         }
         return told.length;
+    }
+
+    private Leg allGo() {
+        trip.there.passAll(now, now.bodies.line, now.bodies.count, false, now.clock);
+        return trip.there;
     }
 
     private boolean allReturn(Cave c) {
@@ -1255,7 +1264,7 @@ public final class BreatheOut {
             calm = c.calm;
             found = false;
             bestCount = 0;
-            bestMinutes = Integer.MAX_VALUE;
+            bestMinutes = NO_LIMIT;
             search(0, fear, 0, 0);
         }
 
@@ -1389,8 +1398,7 @@ public final class BreatheOut {
         }
 
         boolean isSkipped(int i) {
-            int least = sort == BYTES ? Byte.MIN_VALUE : sort == SHORTS ? Short.MIN_VALUE : Integer.MIN_VALUE;
-            return cells[i] == least;
+            return cells[i] == (sort == BYTES ? LEAST_BYTE : sort == SHORTS ? LEAST_SHORT : LEAST_INT);
         }
     }
 }
