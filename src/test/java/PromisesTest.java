@@ -113,6 +113,8 @@ public final class PromisesTest {
         due("a 0 behind", tell(x, "r5;\0"), -1003);
         due("a bad byte is told ahead of a bad statement", tell(x, "c00;q"), -1004);
         due("the end, too", tell(x, "c00;t1"), -1006);
+        due("a whole row, digits lack", tell(x, "r1;".repeat(33) + "r"), -1100);
+        due("a whole row, a ; lacks", tell(x, "r1;".repeat(32) + "l000"), -1100);
         due("nothing came", x.count(3), 1);
         due("kind 8", tell(x, "y8020;"), -2000);
         due("width 05", tell(x, "y0005;"), -2000);
@@ -746,8 +748,10 @@ public final class PromisesTest {
         due("a kind", x.forged(0, 1), -12);
         due("more than yards", x.forged(0, 2), -13);
         x = told("y0020;b30300;");
-        rowOf(x, 0, 0, 1);
-        due("asked first of all", x.forged(0, 0), -4);
+        x.keep(1, 1, 0, 0);
+        x.lays(1, 24);
+        rowOf(x, 0, 0, 0, 2);
+        due("by the yards as they are: in at 20, stuck at 24", x.forged(0, 0), 1);
         promise = 29;
         x = told("y5020;b20000;r5;t60;");
         rowOf(x, 0, 0, 2);
