@@ -1,50 +1,5 @@
 /** Promise by promise: answers worked out by hand from the document, the edges it names, and wrong inputs. */
-public final class PromisesTest {
-    private static int wrong = 0;
-    private static int promise = 0;
-
-    private static void due(String call, long got, long want) {
-        if (got != want) {
-            wrong++;
-            System.out.println("promise " + promise + ": " + call + " answered " + got + ", due is " + want);
-        }
-    }
-
-    /** Puts a text on shelf 7 and has the cave told by it. */
-    private static int tell(BreatheOut x, String text) {
-        rowOf(x, 7, 0, text);
-        return x.cave(7);
-    }
-
-    private static BreatheOut told(String text) {
-        BreatheOut x = new BreatheOut();
-        int statements = text.length() - text.replace(";", "").length();
-        due("cave " + text, tell(x, text), statements);
-        return x;
-    }
-
-    private static void rowOf(BreatheOut x, int d, int sort, String text) {
-        x.row(d, sort, text.length());
-        for (int i = 0; i < text.length(); i++) x.put(d, i, text.charAt(i));
-    }
-
-    private static void rowOf(BreatheOut x, int d, int sort, int... numbers) {
-        x.row(d, sort, numbers.length);
-        for (int i = 0; i < numbers.length; i++) x.put(d, i, numbers[i]);
-    }
-
-    /** 1 IllegalArgumentException, 2 IllegalStateException, 0 nothing. */
-    private static int thrown(BreatheOut x, int d, int i) {
-        try {
-            x.element(d, i);
-        } catch (IllegalArgumentException e) {
-            return 1;
-        } catch (IllegalStateException e) {
-            return 2;
-        }
-        return 0;
-    }
-
+public final class PromisesTest extends Checks {
     public static void main(String[] args) {
         aNewObject();
         cave();
@@ -75,12 +30,11 @@ public final class PromisesTest {
         shelves();
         copy();
         costAndToss();
-        System.out.println(wrong == 0 ? "all promises hold" : wrong + " answers are not as due");
-        if (wrong != 0) System.exit(1);
+        end("all promises hold");
     }
 
     private static void aNewObject() {
-        promise = 1;
+        about = "promise 1";
         BreatheOut x = new BreatheOut();
         int[] counts = {0, 0, 0, 1, 15, 120, 0, 0};
         for (int what = 0; what < 8; what++) due("count " + what, x.count(what), counts[what]);
@@ -93,7 +47,7 @@ public final class PromisesTest {
     }
 
     private static void cave() {
-        promise = 2;
+        about = "promise 2";
         BreatheOut x = new BreatheOut();
         due("d -1", x.cave(-1), -1);
         due("d 8", x.cave(8), -1);
@@ -149,7 +103,7 @@ public final class PromisesTest {
     }
 
     private static void yard() {
-        promise = 3;
+        about = "promise 3";
         // Kinds 0 to 7 with figure 7 and width 20; two hours on, with 3 inches an hour.
         BreatheOut x = told("y0720;y1720;y2720;y3720;y4720;y5720;y6720;y7720;r3;t99;t21;");
         int[] room = {20, 24, 18, 18, 20, 14, 17, 48};
@@ -173,7 +127,7 @@ public final class PromisesTest {
     }
 
     private static void body() {
-        promise = 4;
+        about = "promise 4";
         BreatheOut x = told("b23456;b34567;p12;x01;");
         int[] first = {23, 4, 5, 6, 0, 1};
         int[] second = {34, 5, 6, 7, 2, 0};
@@ -188,7 +142,7 @@ public final class PromisesTest {
     }
 
     private static void laysAndShorter() {
-        promise = 5;
+        about = "promise 5";
         BreatheOut x = new BreatheOut();
         due("no shelf", x.lays(8, 20), -1);
         due("no shelf", x.lays(-1, 20), -1);
@@ -204,14 +158,14 @@ public final class PromisesTest {
         due("figure", x.yard(11, 1), 4);
         due("width", x.yard(0, 2), 6);
         due("the shelf keeps it", x.cost(0), 16);
-        promise = 6;
+        about = "promise 6";
         for (int y = 11; y >= 0; y--) due("shorter", x.shorter(), y);
         due("none", x.shorter(), -3);
         due("again", x.lays(0, 20), 0);
     }
 
     private static void makesChangeSetWaits() {
-        promise = 7;
+        about = "promise 7";
         BreatheOut x = told("b23456;b34567;b20000;");
         due("fear", x.makes(0, 0, 9), 5);
         due("posture", x.makes(0, 1, 3), 0);
@@ -224,7 +178,7 @@ public final class PromisesTest {
         int[][] bad = {{0, 0, 10}, {0, 0, -1}, {0, 1, 4}, {0, 1, -1}, {0, 2, 9}, {0, 2, 51}, {0, 3, 5}, {0, -1, 5}, {3, 0, 5}, {-1, 0, 5}};
         for (int[] b : bad) due("makes " + b[0] + " " + b[1] + " " + b[2], x.makes(b[0], b[1], b[2]), -1);
         due("as it was", x.body(0, 0) + 100 * x.body(0, 2) + 1000 * x.body(0, 4), 3050);
-        promise = 8;
+        about = "promise 8";
         due("change", x.change(0, 2), 2);
         due("place", x.body(2, 5), 0);
         due("change", x.change(1, 0), 2);
@@ -232,7 +186,7 @@ public final class PromisesTest {
         due("one twice", x.change(1, 1), -1);
         due("no such", x.change(0, 3), -1);
         due("no such", x.change(-1, 0), -1);
-        promise = 9;
+        about = "promise 9";
         due("rise", x.set(0, 9), 1);
         due("rise", x.set(0, 0), 9);
         due("calm", x.set(1, 60), 15);
@@ -241,7 +195,7 @@ public final class PromisesTest {
         due("light", x.set(2, 0), 999);
         int[][] out = {{0, 10}, {0, -1}, {1, 0}, {1, 61}, {2, 1000}, {2, -1}, {3, 1}, {-1, 1}};
         for (int[] o : out) due("set " + o[0] + " " + o[1], x.set(o[0], o[1]), -1);
-        promise = 10;
+        about = "promise 10";
         due("0", x.waits(0), 0);
         due("100", x.waits(100), -1);
         due("-1", x.waits(-1), -1);
@@ -252,7 +206,7 @@ public final class PromisesTest {
     }
 
     private static void sizeAndFits() {
-        promise = 11;
+        about = "promise 11";
         // Yards 0 plain, 1 keyholed, 2 slanting; body: chest 25, out 4, fear 7.
         BreatheOut x = told("y0022;y3325;y4021;b25470;");
         int[][] in = {{26, 27, 26, 27}, {28, 29, 26, 27}, {26, 27, 27, 28}};
@@ -264,7 +218,7 @@ public final class PromisesTest {
         }
         int[][] bad = {{1, 0, 0, 0}, {-1, 0, 0, 0}, {0, 3, 0, 0}, {0, -1, 0, 0}, {0, 0, 4, 0}, {0, 0, -1, 0}, {0, 0, 0, 2}, {0, 0, 0, -1}};
         for (int[] b : bad) due("size", x.size(b[0], b[1], b[2], b[3]), -1);
-        promise = 12;
+        about = "promise 12";
         due("26 in 22, out 22", x.fits(0, 0), 1);
         due("28 in 24, out 24", x.fits(0, 1), 1);
         due("26 in 21, out 22", x.fits(0, 2), 2);
@@ -281,7 +235,7 @@ public final class PromisesTest {
     }
 
     private static void way() {
-        promise = 13;
+        about = "promise 13";
         // Out needed at 0 (3 minutes), in at 1 (slanting 1, back 5), flooding 2: 20 less 3 an hour, size 20 out 19.
         BreatheOut x = told("y0019;y4022;y5020;b21100;r3;");
         due("there", x.way(0, 0, 0), -4);
@@ -312,7 +266,7 @@ public final class PromisesTest {
     }
 
     private static void postureLacksWidest() {
-        promise = 14;
+        about = "promise 14";
         // Keyhole of 20: head first with an arm ahead 21, feet first 19.
         BreatheOut x = told("y3020;b20100;");
         due("feet first, without a breath", x.posture(0), 2);
@@ -330,7 +284,7 @@ public final class PromisesTest {
         due("there", y.calms(0), 0);
         due("no body", x.posture(1), -1);
         due("no body", x.posture(-1), -1);
-        promise = 15;
+        about = "promise 15";
         due("19 - 1 in 17", x.lacks(0), 1);
         x.makes(0, 0, 9);
         due("with fear", x.lacks(0), 4);
@@ -340,7 +294,7 @@ public final class PromisesTest {
         due("no body", x.lacks(1), -1);
         x = told("y5020;y0030;b25400;r5;t99;");
         due("20 in 15", x.lacks(0), 5);
-        promise = 16;
+        about = "promise 16";
         due("chest c less 5 in 15", x.widest(0), 20);
         x.set(0, 9);
         due("chest c less 5 in 11", x.widest(0), 16);
@@ -356,7 +310,7 @@ public final class PromisesTest {
     }
 
     private static void go() {
-        promise = 17;
+        about = "promise 17";
         // Bodies 0 (in 19), 1 (in 21, out 20), 2 (out 22, lacks 2); pulls 6, 3, 0; a yard of 20 and one of 30.
         BreatheOut x = told("y0020;y0030;b20006;b22103;b24100;");
         // 0: 2+2; 1: 3+2, a breath; 2: pulled by 6 / 3 = 2: 12+2.
@@ -395,7 +349,7 @@ public final class PromisesTest {
     }
 
     private static void back() {
-        promise = 18;
+        about = "promise 18";
         // There: 0 pulled by nobody, pushed by 1; back: 1 first, pushed by 0; then 0, pulled by 1.
         BreatheOut x = told("y0020;y4030;b23000;b20006;");
         due("there", x.go(3), (12 + 1) + (2 + 1));
@@ -439,7 +393,7 @@ public final class PromisesTest {
     }
 
     private static void help() {
-        promise = 19;
+        about = "promise 19";
         BreatheOut x = told("b20008;b20005;b20009;b20002;");
         due("first: pushed by 5", x.help(0), 1);
         due("pulled by 8, pushed by 9", x.help(1), 2 + 3);
@@ -454,7 +408,7 @@ public final class PromisesTest {
     }
 
     private static void order() {
-        promise = 20;
+        about = "promise 20";
         // 0 lacks 3: it must have 9 / 3 behind or beyond both ways.
         BreatheOut x = told("y0020;b24000;b20009;");
         due("both", x.order(-1), 2);
@@ -514,7 +468,7 @@ public final class PromisesTest {
     }
 
     private static void stays() {
-        promise = 21;
+        about = "promise 21";
         BreatheOut x = told("y0020;b20000;b29000;b20000;b30000;");
         due("1 and 3", x.stays(), 2 + 8);
         x = told("y0020;b20000;b20000;");
@@ -533,7 +487,7 @@ public final class PromisesTest {
     }
 
     private static void calms() {
-        promise = 22;
+        about = "promise 22";
         BreatheOut x = told("y0020;b21080;c10;");
         // Size 20 + 8 / 3: fear below 3, so 6 times 10.
         due("calms", x.calms(0), 60);
@@ -552,7 +506,7 @@ public final class PromisesTest {
     }
 
     private static void rescue() {
-        promise = 23;
+        about = "promise 23";
         // Size 20 + 9 / 3 out, lacks 3 at 20; others pull 4 and 7: pull 2 inches, push 1.
         BreatheOut x = told("y0020;b21090;b20004;b20007;c05;");
         // Haste thrice: fear stays 9, 3 inches: 6 minutes.
@@ -592,7 +546,7 @@ public final class PromisesTest {
     }
 
     private static void turns() {
-        promise = 24;
+        about = "promise 24";
         BreatheOut x = told("y0020;b20000;");
         due("120 less 4", x.turns(), 116);
         x.waits(99);
@@ -614,7 +568,7 @@ public final class PromisesTest {
     }
 
     private static void floods() {
-        promise = 25;
+        about = "promise 25";
         BreatheOut x = told("y5020;y0020;y0015;b20200;r3;");
         due("17 in 20 - 3 h", x.floods(0, 0), 2);
         due("never", x.floods(0, 1), -4);
@@ -640,7 +594,7 @@ public final class PromisesTest {
     }
 
     private static void haste() {
-        promise = 26;
+        about = "promise 26";
         BreatheOut x = told("y0020;b20390;b19000;");
         // Fear 9: 22, out 19: a breath each way.
         due("two breaths", x.haste(), 2);
@@ -660,7 +614,7 @@ public final class PromisesTest {
     }
 
     private static void panic() {
-        promise = 27;
+        about = "promise 27";
         // In panic one is stuck: by 5 tenths, 2 tenths: 5 * 8 of 100.
         BreatheOut x = told("y0021;b20050;b20020;");
         due("2 of 5", x.panic(0), 2);
@@ -689,7 +643,7 @@ public final class PromisesTest {
     }
 
     private static void firstWays() {
-        promise = 28;
+        about = "promise 28";
         // A keyhole of 20: 21 of chest is 22 head first, 20 feet first with an arm ahead.
         BreatheOut x = told("y3020;b21000;b19000;");
         due("0 feet first, 1 as it is", x.firstWays(), 20);
@@ -708,7 +662,7 @@ public final class PromisesTest {
     private static void rockAndForged() {
         // The body: chest c, out 3, an arm ahead: in c - 1, out c - 4. Yards of 20, 24, 22.
         BreatheOut x = told("y0020;y0024;y0022;b30300;");
-        promise = 29;
+        about = "promise 29";
         rowOf(x, 0, 0, 1, 0, 0);
         // Breathed out at 20: 22 .. 24; in at 24: to 25; in at 22: to 23.
         due("22, 23", x.rock(0, 0, 0), 2);
@@ -716,7 +670,7 @@ public final class PromisesTest {
         rowOf(x, 0, 1, 2, -32768, 0);
         due("stuck at 20, in at 22: none", x.rock(0, 0, 0), 0);
         due("none", x.rock(0, 0, 1), -4);
-        promise = 30;
+        about = "promise 30";
         due("the third tells it", x.forged(0, 0), 2);
         rowOf(x, 0, 2, 3, 0, 0);
         due("no such answer", x.forged(0, 0), 0);
@@ -724,7 +678,7 @@ public final class PromisesTest {
         due("the least of another sort is not skipped", x.forged(0, 0), 1);
         rowOf(x, 0, 0, -128, 2);
         due("stuck at 24", x.forged(0, 0), -4);
-        promise = 29;
+        about = "promise 29";
         due("from 29", x.rock(0, 0, 1), 29);
         due("29 .. 50", x.rock(0, 0, 0), 22);
         x.row(0, 0, 0);
@@ -740,7 +694,7 @@ public final class PromisesTest {
         due("nothing", x.rock(0, 3, 0), -11);
         due("a kind", x.rock(0, 1, 0), -12);
         due("more than yards", x.rock(0, 2, 0), -13);
-        promise = 30;
+        about = "promise 30";
         due("told nothing", x.forged(0, 0), -4);
         due("no body", x.forged(-1, 0), -1);
         due("no shelf", x.forged(0, -1), -1);
@@ -752,14 +706,14 @@ public final class PromisesTest {
         x.lays(1, 24);
         rowOf(x, 0, 0, 0, 2);
         due("by the yards as they are: in at 20, stuck at 24", x.forged(0, 0), 1);
-        promise = 29;
+        about = "promise 29";
         x = told("y5020;b20000;r5;t60;");
         rowOf(x, 0, 0, 2);
         due("the hour is now: 15 inches, stuck from 17", x.rock(0, 0, 1), 17);
     }
 
     private static void judge() {
-        promise = 31;
+        about = "promise 31";
         // Order 1, 0: 1 is through at 2, 0 breathes out: 2 + 3.
         BreatheOut x = told("y0020;b22100;b20000;x01;t30;");
         rowOf(x, 0, 0, 2, 5);
@@ -786,7 +740,7 @@ public final class PromisesTest {
     }
 
     private static void parties() {
-        promise = 32;
+        about = "promise 32";
         // z 0: 12345 -> 0; then 12345 * 1103515245 + 12345 = -740551042 -> 1406932606 / 65536 = 21468 -> 8.
         BreatheOut x = told("y0021;b20090;");
         due("fear 0: through", x.parties(1, 0, 0), 1);
@@ -819,16 +773,16 @@ public final class PromisesTest {
     }
 
     private static void image() {
-        promise = 34;
+        about = "promise 34";
         BreatheOut x = told("y2520;b20111;b21222;p01;x01;r4;c20;l300;t40;");
         due("none", x.restore(), -3);
-        promise = 33;
+        about = "promise 33";
         due("image", x.image(), 40);
         tell(x, "y0030;b30000;p03;x02;r9;c09;l009;t09;");
         x.makes(0, 0, 9);
         x.makes(1, 2, 40);
         x.row(3, 0, 2);
-        promise = 34;
+        about = "promise 34";
         due("clock", x.restore(), 40);
         int[] counts = {1, 2, 40, 4, 20, 300, 20, 41};
         for (int what = 0; what < 8; what++) due("count " + what, x.count(what), counts[what]);
@@ -843,7 +797,7 @@ public final class PromisesTest {
     }
 
     private static void count() {
-        promise = 35;
+        about = "promise 35";
         BreatheOut x = told("y0020;y0030;y0040;b20000;b25000;r3;c33;l345;t44;");
         int[] counts = {3, 2, 44, 3, 33, 345, 90, 45};
         for (int what = 0; what < 8; what++) due("count " + what, x.count(what), counts[what]);
@@ -855,14 +809,14 @@ public final class PromisesTest {
 
     private static void shelves() {
         BreatheOut x = new BreatheOut();
-        promise = 36;
+        about = "promise 36";
         due("kind", x.keep(0, 1, 7, 9), 0);
         int[][] bad = {{8, 0, 0, 0}, {-1, 0, 0, 0}, {0, 2, 0, 0}, {0, -1, 0, 0}, {0, 1, 8, 0}, {0, 1, -1, 0}, {0, 1, 0, 10}, {0, 1, 0, -1}};
         for (int[] b : bad) due("keep", x.keep(b[0], b[1], b[2], b[3]), -1);
         due("it stays", x.cost(0), 10);
         due("nothing, whatever else", x.keep(0, 0, 99, -99), 0);
         due("nothing", x.cost(0), -11);
-        promise = 37;
+        about = "promise 37";
         due("row", x.row(0, 0, 100), 0);
         due("101", x.row(0, 0, 101), -1);
         due("-1", x.row(0, 0, -1), -14);
@@ -873,23 +827,23 @@ public final class PromisesTest {
         due("anew", x.row(0, 0, 100), 0);
         due("0 at first", x.element(0, 99), 0);
         due("none", x.row(0, 0, 0), 0);
-        promise = 38;
+        about = "promise 38";
         due("no place", x.put(0, 0, 1), -13);
         rowOf(x, 0, 0, 200, -129, 256, 127);
         rowOf(x, 1, 1, 40000, -32769, 65536, 200);
         rowOf(x, 2, 2, Integer.MAX_VALUE, Integer.MIN_VALUE, 65536, 200);
-        promise = 39;
+        about = "promise 39";
         long[][] kept = {{-56, 127, 0, 127}, {-25536, 32767, 0, 200}, {2147483647L, -2147483648L, 65536, 200}};
         for (int d = 0; d < 3; d++) for (int i = 0; i < 4; i++) due("element " + d + " " + i, x.element(d, i), kept[d][i]);
         x.keep(3, 1, 0, 0);
-        promise = 38;
+        about = "promise 38";
         due("place 4", x.put(0, 4, 1), -13);
         due("place -1", x.put(0, -1, 1), -13);
         due("shelf 8", x.put(8, 0, 1), -1);
         due("shelf -1", x.put(-1, 0, 1), -1);
         due("nothing", x.put(4, 0, 1), -11);
         due("a kind", x.put(3, 0, 1), -12);
-        promise = 39;
+        about = "promise 39";
         due("shelf 8", thrown(x, 8, 0), 1);
         due("shelf -1", thrown(x, -1, -1), 1);
         due("nothing", thrown(x, 4, 0), 2);
@@ -900,7 +854,7 @@ public final class PromisesTest {
     }
 
     private static void copy() {
-        promise = 40;
+        about = "promise 40";
         BreatheOut x = new BreatheOut();
         rowOf(x, 0, 1, 1, 2, 3, 4, 5);
         rowOf(x, 1, 1, 9, 9, 9);
@@ -931,21 +885,21 @@ public final class PromisesTest {
         int[] costs = {3, 1, 8, 16, 9, 4, 17, 6};
         int[] tosses = {5, 5, 105, 105, 5, 5, 217, -15};
         for (int k = 0; k < 8; k++) {
-            promise = 41;
+            about = "promise 41";
             x.keep(0, 1, k, 5);
             due("cost of kind " + k, x.cost(0), costs[k]);
-            promise = 42;
+            about = "promise 42";
             due("toss of kind " + k, x.toss(0), tosses[k]);
             x.keep(0, 1, k, 0);
             due("figure 0 of kind " + k, x.toss(0), -15);
         }
         x.row(0, 0, 1);
-        promise = 41;
+        about = "promise 41";
         due("a row", x.cost(0), -12);
         due("nothing", x.cost(1), -11);
         due("shelf 8", x.cost(8), -1);
         due("shelf -1", x.cost(-1), -1);
-        promise = 42;
+        about = "promise 42";
         due("a row", x.toss(0), -12);
         due("nothing", x.toss(1), -11);
         due("shelf 8", x.toss(8), -1);
