@@ -303,6 +303,13 @@ public final class PassageEdgesTest extends Checks {
         go("by ORDER 2, 1, 0", told("y0020;b20000;b22000;b20000;x02;"), 4, 1, 0, 2, 0);
         BreatheOut x = told("y0020;b20000;b22000;b20000;x01;");
         go("first in ORDER", x, 0, 1, 0, 0, 0);
+        x.makes(1, 2, 21);
+        go("when it is not", x, 7, -4, -4, 6, 0);
+        x.makes(0, 2, 22);
+        go("when another is", x, 2, 0, 0, 2, 0);
+        x.makes(1, 2, 22);
+        go("when both are", x, 0, 1, 0, 0, 0);
+        back("when both are", x, 0, -4, 0, 0);
         x = new BreatheOut();
         tell(x, "y0020;y0020;t33;");
         go("nobody", x, 0, -4, -4, 33, 0);

@@ -14,6 +14,7 @@ public final class QuestionsEdgesTest extends Checks {
         rescueByFewDeeds();
         rescueWithFearAtItsEnds();
         rescueByHelp();
+        rescueOfAnother();
         turnRound();
         floods();
         haste();
@@ -27,6 +28,7 @@ public final class QuestionsEdgesTest extends Checks {
         judgedSkips();
         parties();
         draws();
+        asOfNow();
         end("the edges of part II hold");
     }
 
@@ -276,6 +278,27 @@ public final class QuestionsEdgesTest extends Checks {
         rescued("a minute later", told("y5020;b22000;b10009;r9;t60;"), 4, 32, 0, 0, 0, 3);
     }
 
+    private static void rescueOfAnother() {
+        about = "of one STUCK alone: all others are whoever it is not";
+        int[] pulls = {9, 6, 3};
+        for (int b = 0; b < 3; b++) {
+            BreatheOut x = told("y0020;b10009;b10006;b10003;");
+            x.makes(b, 2, 24);
+            int greatest = b == 0 ? 2 : 3;
+            due("three inches, by " + greatest + " each", x.rescue(b, 0, 1, -1), greatest == 3 ? 10 : -4);
+            x.makes(b, 2, 23);
+            due("two inches", x.rescue(b, 0, 1, -1), 10);
+            due("by a pull", x.rescue(b, 0, 1, 0), 0);
+            x.makes(b, 2, 25);
+            due("four inches, one deed", x.rescue(b, 0, 1, -1), -4);
+            due("four inches, one deed: the first", x.rescue(b, 0, 1, 0), -4);
+            due("its own PULL stays", x.body(b, 3), pulls[b]);
+        }
+        BreatheOut x = told("y0020;y0015;y0019;b22000;");
+        int[] minutes = {2, -4, 4};
+        for (int y = 0; y < 3; y++) due("in YARD " + y, x.rescue(0, y, 6, -1), minutes[y]);
+    }
+
     private static void turnRound() {
         about = "TURN ROUND: MINUTES (0 .. 600), CLOCK then LIGHT or less; -4";
         int[][] cases = {{4, 0, 0}, {3, 0, -4}, {5, 0, 1}, {0, 0, -4}, {603, 0, 599}, {604, 0, 600}, {605, 0, 600}, {999, 0, 600}, {999, 395, 600},
@@ -319,6 +342,10 @@ public final class QuestionsEdgesTest extends Checks {
         due("no FLOODING", told("y0020;b21000;").floods(0, 0), -4);
         due("no FLOODING, too narrow", told("y0020;b22000;").floods(0, 0), 0);
         due("breathed out", told("y5020;b21300;").floods(0, 0), 4);
+        due("by its POSTURE, at a slant", told("y4020;b21000;p02;").floods(0, 0), 0);
+        due("by its POSTURE, at a slant", told("y4020;b21000;p00;").floods(0, 0), -4);
+        due("by its POSTURE, at a keyhole", told("y3020;b21000;p02;").floods(0, 0), -4);
+        due("by its POSTURE, at a keyhole", told("y3020;b21000;p00;").floods(0, 0), 0);
         due("whatever the HOUR now", told("y5020;b21300;t99;t99;t99;t99;").floods(0, 0), 4);
     }
 
@@ -574,6 +601,54 @@ public final class QuestionsEdgesTest extends Checks {
             fears[k] = seed.mod(BigInteger.ONE.shiftLeft(31)).divide(BigInteger.valueOf(65536)).mod(BigInteger.TEN).intValue();
         }
         return fears;
+    }
+
+    /** What changed since the last text, and since the last question, counts. */
+    private static void asOfNow() {
+        about = "from now, as it is";
+        BreatheOut x = told("y0030;b20050;");
+        due("posture", x.posture(0), 0);
+        due("widest", x.widest(0), 30);
+        due("calms", x.calms(0), 0);
+        x.keep(0, 1, 0, 0);
+        x.lays(0, 20);
+        x.makes(0, 0, 9);
+        due("19 and 3 in 20", x.posture(0), -4);
+        due("c less 1 and 3 in 20", x.widest(0), 18);
+        due("FEAR 5", x.calms(0), 60);
+        x = told("y0020;b20330;");
+        due("a BREATH there and back by FEAR", told("y0020;b21330;").haste(), 2);
+        x.makes(0, 2, 22);
+        due("a BREATH without FEAR, too", x.haste(), 0);
+        x = told("y0020;b20010;");
+        due("9 of 10", x.panic(0), 9);
+        x.makes(0, 2, 30);
+        due("none", x.panic(0), 0);
+        x = told("y3020;b19000;");
+        due("as it is", x.firstWays(), 0);
+        x.makes(0, 2, 21);
+        due("feet first", x.firstWays(), 2);
+        x = told("y0020;b20000;");
+        x.keep(0, 1, 0, 0);
+        x.lays(0, 30);
+        rowOf(x, 1, 0, 2, 0);
+        due("22 .. 31", x.rock(0, 1, 0), 10);
+        due("fits", x.forged(0, 1), -4);
+        x.shorter();
+        x.lays(0, 19);
+        due("none", x.rock(0, 1, 0), 0);
+        due("the second", x.forged(0, 1), 1);
+        x = told("y0030;b20000;");
+        due("all", x.parties(20, 1, 0), 20);
+        x.makes(0, 2, 40);
+        due("none", x.parties(20, 1, 0), 0);
+        due("its FEAR is as it was", x.body(0, 2), 0);
+        // On the way there YARD 0 is met at 58, on the way back at 60.
+        x = told("y5020;y0020;b20000;r9;t58;");
+        due("not STUCK there", x.posture(0), 0);
+        due("not STUCK there", x.widest(0), 21);
+        due("not STUCK there", x.calms(0), 0);
+        due("STUCK on the way back", x.way(0, 1, 0), 0);
     }
 
     /** Two a party, equal but for FEAR; nobody helps, nothing changes on the way back. */

@@ -269,13 +269,11 @@ public final class ShelvesEdgesTest extends Checks {
 
     private static void imageOfAll() {
         about = "RESTORED all is as it was then";
-        String text = "y0020;y3921;y5040;b21234;b32345;b43456;p11;p22;x02;r3;c04;l005;t66;";
+        String text = "y0020;y3921;y5040;y4040;b21234;b32345;b43456;p11;p22;x02;r3;c04;l005;t66;";
         BreatheOut due = told(text);
         BreatheOut x = told(text);
         due("CLOCK", x.image(), 66);
-        x.shorter();
-        x.shorter();
-        x.shorter();
+        for (int k = 0; k < 4; k++) x.shorter();
         tell(x, "y7706;y6607;y1108;y2209;b10000;p03;p13;p23;x01;x13;r9;c60;l999;t88;");
         for (int b = 0; b < 4; b++) x.makes(b, 0, 9);
         for (int b = 0; b < 4; b++) x.makes(b, 2, 50);
@@ -283,7 +281,7 @@ public final class ShelvesEdgesTest extends Checks {
         for (int what = 0; what < 8; what++) due("count " + what, x.count(what), due.count(what));
         for (int y = 0; y < 4; y++) for (int what = 0; what < 6; what++) due("yard " + y + ", " + what, x.yard(y, what), due.yard(y, what));
         for (int b = 0; b < 4; b++) for (int what = 0; what < 6; what++) due("body " + b + ", " + what, x.body(b, what), due.body(b, what));
-        for (int p = 0; p < 4; p++) for (int y = 0; y < 3; y++) due("size", x.size(0, y, p, 1), due.size(0, y, p, 1));
+        for (int p = 0; p < 4; p++) for (int y = 0; y < 4; y++) due("size", x.size(0, y, p, 1), due.size(0, y, p, 1));
         for (int what = 0; what < 4; what++) due("back " + what, x.back(what), due.back(what));
         for (int i = -1; i < 3; i++) due("best order " + i, x.order(i), due.order(i));
     }
